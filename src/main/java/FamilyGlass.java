@@ -179,9 +179,7 @@ public final class FamilyGlass {
             case 2:
                 return house.sways[person];
             case 3:
-                int mark = course.markOf(now);
-                course.see(now);
-                return course.driftsTold(now, person, mark);
+                return course.driftsTold(now, person, course.markOf(now));
             default:
                 return NONE;
         }
@@ -205,9 +203,7 @@ public final class FamilyGlass {
             case 5:
                 return doneNow() >> doing & 1;
             case 6:
-                int mark = course.markOf(now);
-                course.see(now);
-                return course.changesTold(now, doing, mark);
+                return course.changesTold(now, doing, course.markOf(now));
             default:
                 return NONE;
         }
@@ -1188,7 +1184,6 @@ public final class FamilyGlass {
                 law.lead(unless);
             }
             readSum(law, 0);
-            law.add(ANSWER, 0);
             take(';');
         }
 
@@ -1322,13 +1317,14 @@ public final class FamilyGlass {
             vars[TAPS] = state.taps;
         }
 
-        /** JUMPS; the needle's rest is told by the VAR mark then. */
+        /** JUMPS; the state is seen then, and the VAR mark tells the needle's rest. */
         private int jumpsOf(State state) {
             see(state);
             vars[MARK] = Math.max(0, valueOf(house.needle)) % MARKS;
             return held(valueOf(house.jumps), MARKS - 1);
         }
 
+        /** The MARK; the state is seen then. */
         private int markOf(State state) {
             int jumps = jumpsOf(state);
             return (vars[MARK] + jumps * state.taps) % MARKS;
@@ -1602,7 +1598,7 @@ public final class FamilyGlass {
 
         private void find(State now, int people) {
             this.people = people;
-            least = people == 0 ? 0 : Integer.MAX_VALUE;
+            least = Integer.MAX_VALUE;
             for (int p = 0; p < MOST_PEOPLE; p++) {
                 trial[p] = NONE;
                 partners[p] = NOT;

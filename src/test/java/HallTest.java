@@ -244,6 +244,9 @@ public final class HallTest {
         DUE.is("slots", x.count(11), 2);
         x.restore(2);
         DUE.is("held anew", x.count(2), 31);
+        x.hours(1);
+        DUE.is("restore 0", x.restore(0), true);
+        DUE.is("hour", x.count(2), 31);
     }
 
     private static void promise41() {
@@ -266,6 +269,9 @@ public final class HallTest {
         x.hours(50);
         DUE.is("hour", x.count(2), 50);
         DUE.is("hour of the day", x.count(14), 2);
+        x = DUE.glass("person a 0 0; person b 20 0; person c 0 0; person d 20 0; person e 19 0;");
+        DUE.is("of MOOD 0", x.count(15), 1 + 4);
+        DUE.is("of MOOD 20", x.count(16), 2 + 8);
         DUE.is("jumps held", DUE.glass("jumps = 12;").count(13), 11);
         DUE.is("jumps held", DUE.glass("jumps = 0 - 1;").count(13), 0);
         DUE.is("jumps by the needle's rest", DUE.glass("needle = 17; jumps = mark + 1;").count(13), 6);

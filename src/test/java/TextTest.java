@@ -127,6 +127,8 @@ public final class TextTest {
         DUE.fault("person mood 1 2;", 1, 7);
         DUE.fault("person abcdefgh 1 2;", 0, -1);
         DUE.fault("person abcdefghi 1 2;", 1, 7);
+        DUE.fault("person zzzzzzzz 1 2;person azyz 0 0;", 0, -1);
+        DUE.fault("person zzzzzzzzz 1 2;", 1, 7);
         DUE.fault("person\ta\n1\r2;person b1 2;", 0, -1);
         DUE.fault("person A 1 2;", 1, 7);
         DUE.fault("person a 0001 2;", 0, -1);
@@ -219,6 +221,9 @@ public final class TextTest {
         DUE.fault("person a 1 1;doing d a 11 0 21;", 5, 28);
         DUE.fault("slips 100;seed 9999;", 0, -1);
         DUE.fault("slips 101;", 5, 6);
+        DUE.fault("person a 1 1;person aa 1 1;person b 1 1;person bb 1 1;person ab 1 1;doing ba aa 1 1 1;", 0, -1);
+        DUE.fault("person b 1 1;doing bb b 1 1 1;doing a aa 1 1 1;", 4, 38);
+        DUE.fault("person abcdefgh 1 1;person abcdefgi 1 1;person bbcdefgh 1 1;person abcdefgh 1 1;", 3, 67);
         // of these the first by its place; SYNTAX and ROOM ahead of them all
         DUE.fault("person a 21 1;person a 1 1;", 5, 9);
         DUE.fault("person a 1 1;person a 21 1;", 3, 20);

@@ -83,6 +83,10 @@ public final class WouldBeTest {
                 + " else if 24 * (sum - mood) + hour < LAST then mood else 1;";
         isRound(twoSteps.replace("LAST", "275"), 276, 24);
         isRound(twoSteps.replace("LAST", "276"), -2, -2);
+        String once = " drifts = if hour < 23 then mood else if which < 1 then 1 else 0;";
+        isRound("person a 0 0; person b 19 0;" + once, 24, 24);
+        isRound("person a 0 0; person b 20 0;" + once, 24, 24);
+        isRound("person a 0 0; person b 18 0;" + once, 24, 24);
         FamilyGlass x = DUE.glass(HOUSE);
         DUE.is("round 2", x.round(2), -1);
         DUE.is("round -1", x.round(-1), -1);
@@ -143,6 +147,10 @@ public final class WouldBeTest {
         x.forbid(1, true);
         DUE.is("two more", x.forbids(1, 60, 0), 2);
         DUE.is("two more", x.forbids(1, 60, 1), 5);
+        x = DUE.glass("person a 0 0; doing d a 0 0 3; doing e a 0 0 3; doing f a 0 0 5; doing g a 0 0 1; doing h a 0 0 1;"
+                + "doing i a 0 0 1; needle = if sum < 1 then 0 else 1;");
+        DUE.is("all six", x.forbids(1, 1, 0), 6);
+        DUE.is("all six", x.forbids(1, 1, 1), 63);
         DUE.is("not ahead of the first HOUR", DUE.glass("needle = if hour < 1 then 4 else 5;").forbids(4, 23, 0), 0);
         DUE.is("behind the last HOUR", DUE.glass("needle = if hour < 1 then 4 else 5;").forbids(4, 24, 0), -2);
     }
@@ -404,6 +412,20 @@ public final class WouldBeTest {
         for (int n = 1; n <= 4; n++) {
             isGame(x, n, n, 0);
         }
+        // none forbidden, though six can be
+        StringBuilder six = new StringBuilder("person a 20 0; changes = mood - much;");
+        for (char name = 'b'; name < 'h'; name++) {
+            six.append("doing ").append(name).append(" a 0 11 1;");
+        }
+        isGame(DUE.glass(six.toString()), 1, 14, 0);
+        isGame(DUE.glass(six.toString()), 2, 8, 0);
+        // 9 taps at most, in the later HOURS too
+        x = DUE.glass("person a 0 0; doing d a 10 10 5; doing e a 10 10 5;");
+        for (int i = 0; i < 8; i++) {
+            x.tap();
+        }
+        isGame(x, 2, 0, 0);
+        isGame(x, 3, 0, 0);
         // taps stay for the later HOURS
         x = DUE.glass("person a 0 0; doing d a 2 2 5; doing e a 2 2 5;");
         isGame(x, 1, 0, 0);
@@ -534,6 +556,18 @@ public final class WouldBeTest {
         DUE.is("nobody", x.look(0, -1, 2), -1);
         DUE.is("no such v", x.look(0, 0, 12), -1);
         DUE.is("no such v", x.look(2, 0, -1), -1);
+        // the MARK tells something of a behind 24 HOURS alone: whether it is 11 or more; 20
+        String late = "person a 0 0; person b 0 0; drifts = if which < 1 then mood else if hour < 23 then 0 else 20;"
+                + "needle = if most < 20 then 0 else (sum - 20) / ";
+        DUE.is("behind 24", DUE.glass(late + "11;").look(0, 0, 1), 24);
+        DUE.is("behind 24", DUE.glass(late + "20;").look(0, 0, 1), 24);
+        DUE.is("alike", DUE.glass(late + "21;").look(0, 0, 1), 0);
+        x = DUE.glass("person a 0 0; needle = sum / 20;");
+        x.tell(0, 1, true);
+        DUE.is("20 is left", x.look(1, 0, 5), 0);
+        x = DUE.glass("person a 0 0; needle = 1 - sum;");
+        x.tell(0, 1, true);
+        DUE.is("0 is left", x.look(1, 0, 5), 0);
         // the MARK tells something of the MOOD in the last hour of the day alone
         x = DUE.glass("person a 0 0; needle = if 22 < hour then sum / 10 else 0;");
         DUE.is("behind 23", x.look(0, 0, 1), 23);
