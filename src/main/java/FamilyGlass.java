@@ -27,6 +27,8 @@ public final class FamilyGlass {
     private static final int GAME_HOURS = 4;
     private static final int MOST_SEEDS = 20;
     private static final int MOST_SUM = 100;
+    /** More than all MOODS, added, can be. */
+    private static final int OVER_ALL = MOST_SUM + 1;
 
     private static final int MOST_BYTES = 2000;
     private static final int FEED_BYTES = 20;
@@ -1539,10 +1541,10 @@ public final class FamilyGlass {
                 return;
             }
             states[n].takeFrom(now);
-            much = auntsLeast(course, n, 0, Integer.MIN_VALUE, Integer.MAX_VALUE);
+            much = auntsLeast(course, n, 0, -1, OVER_ALL);
             taps = 0;
             if (now.taps < TOP_TAPS) {
-                int tapped = auntsLeast(course, n, 1, much, Integer.MAX_VALUE);
+                int tapped = auntsLeast(course, n, 1, much, OVER_ALL);
                 taps = tapped > much ? 1 : 0;
                 much = Math.max(much, tapped);
             }
@@ -1573,7 +1575,7 @@ public final class FamilyGlass {
             next.taps += taps;
             int mark = course.markOf(next);
             int done = course.doneAt(next, mark);
-            int least = Integer.MAX_VALUE;
+            int least = OVER_ALL;
             // NONE: she forbids none; to forbid what would not be done is the same
             for (int d = NONE; d < MOST_DOINGS && least > floor; d++) {
                 if (d == NONE || (done >> d & 1) == 1) {
@@ -1598,7 +1600,7 @@ public final class FamilyGlass {
 
         private void find(State now, int people) {
             this.people = people;
-            least = Integer.MAX_VALUE;
+            least = OVER_ALL;
             for (int p = 0; p < MOST_PEOPLE; p++) {
                 trial[p] = NONE;
                 partners[p] = NOT;

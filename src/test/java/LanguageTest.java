@@ -108,8 +108,7 @@ public final class LanguageTest {
         for (String sign : List.of("->", "::", "@", "{{")) {
             DUE.is("uses of " + sign, code.contains(sign), false);
         }
-        Set<String> known = new HashSet<>(List.of("Math.max", "Math.min", "Math.abs", "Integer.bitCount", "Integer.MAX_VALUE",
-                "Integer.MIN_VALUE"));
+        Set<String> known = new HashSet<>(List.of("Math.max", "Math.min", "Math.abs", "Integer.bitCount"));
         Matcher uses = Pattern.compile("\\b(Math|Integer|Long|Arrays|String|Character|Byte)\\.\\w+").matcher(code);
         while (uses.find()) {
             DUE.is("library: " + uses.group(), known.contains(uses.group()), true);
