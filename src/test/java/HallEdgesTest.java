@@ -30,6 +30,7 @@ public final class HallEdgesTest {
         markForAll();
         driftsBehindTheDoings();
         laws();
+        deepLaws();
         personEdges();
         doingEdges();
         markEdges();
@@ -395,6 +396,21 @@ public final class HallEdgesTest {
         DUE.is("( )", needle("(1+2)*3"), 9);
         DUE.is("- ( )", needle("9-(4-3)"), 8);
         DUE.is("/ ( )", needle("40/(8/4)"), 20 % 12);
+    }
+
+    /** As many ifs and as many ( as can be, with as much as can wait ahead of each. */
+    private static void deepLaws() {
+        DUE.about("4 ifs, 6 ( within one another");
+        String deep = "1+1*(1+1*(1+1*(1+1*(1+1*(1+1*(1+1*1))))))";
+        String no = "if 8<" + deep + " then 1/0 else ";
+        DUE.is("8", needle(deep), 8);
+        DUE.is("behind 4 ifs", needle(no.repeat(4) + deep), 8);
+        DUE.is("by the 4th if", needle(no.repeat(3) + "if 7<" + deep + " then " + deep + " else 1/0"), 8);
+        DUE.is("not by the 4th if", needle(no.repeat(3) + "if " + deep + "<8 then 1/0 else " + deep), 8);
+        DUE.is("by the first one", needle("if " + deep + "<9 then " + deep + " else " + no.repeat(3) + "1/0"), 8);
+        String back = "(((((((1+1)*1+1)*1+1)*1+1)*1+1)*1+1)*1+1)".substring(1);
+        DUE.is("the other way round", needle(back.substring(0, back.length() - 1)), 8);
+        DUE.is("400 TOKENS", needle("0" + "+1".repeat(196) + "*1*1"), 196 % 12);
     }
 
     private static void personEdges() {

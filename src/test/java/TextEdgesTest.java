@@ -32,6 +32,7 @@ public final class TextEdgesTest {
         laterFaultsByPlace();
         faultChangesNothing();
         elseInPlaceOfTheOneAhead();
+        nothingOfTheOnesAhead();
         newObject();
         feedEdges();
         backEdges();
@@ -235,6 +236,10 @@ public final class TextEdgesTest {
             DUE.is("CHANGES", x.doing(0, 6), 8);
             DUE.is("DRIFTS", x.person(0, 3), 4);
             DUE.is("JUMPS", x.count(13), 1);
+            DUE.is("SLIPS (0)", x.count(12), 0);
+            // LOT 100 of SEED 0 in hour 283 is 0
+            x.hours(200);
+            x.hours(83);
             DUE.is("SLIPS (0)", x.count(12), 0);
             Due.feed(x, told + "slips 89;");
             x.read();
@@ -530,6 +535,52 @@ public final class TextEdgesTest {
             }
             DUE.is("SLOTS hold nothing", x.count(11), 0);
             DUE.is("MOOD at first", x.person(0, 0), text.isEmpty() ? -1 : 7);
+        }
+    }
+
+    /** Whatever was read ahead, with a FAULT or without, and however often. */
+    private static void nothingOfTheOnesAhead() {
+        DUE.about("in place of the one ahead, and nothing is left of it");
+        String laws = "";
+        for (String law : LAWS) {
+            laws += law + "=if 2<1 then 7 else if 1<2 then 8 else 9;";
+        }
+        String full = FIVE.replace("1 1", "20 9") + SIX.replace("1 1 1", "0 11 9") + laws + "slips 100;seed 1234;";
+        String small = "person x 3 4;doing y x 3 3 2;";
+        String[] ahead = {full, full + "?", full + "needle=(((((((1)))))));", full + "person a 1 1;", full + "person f 1 1;",
+            full.replace(";slips 100", ";slips 101"), full.replace("doing k a", "doing k z"), full.replace("doing k a", "doing j a")};
+        int[] wanted = Due.seen(DUE.glass(small));
+        for (String one : ahead) {
+            for (String two : ahead) {
+                for (int times = 1; times <= 3; times++) {
+                    FamilyGlass x = new FamilyGlass();
+                    for (String text : new String[] {one, two}) {
+                        Due.feed(x, text);
+                        x.read();
+                    }
+                    for (int i = 0; i < times; i++) {
+                        Due.feed(x, small);
+                        DUE.is("read", x.read(), 0);
+                    }
+                    DUE.alike("behind the ones ahead", Due.seen(x), wanted);
+                    DUE.is("an HOUR", x.hours(1), 1);
+                    DUE.is("all MOODS, added", x.count(3), 5);
+                    DUE.is("MARK", x.mark(), 5);
+                }
+            }
+        }
+        FamilyGlass x = DUE.glass(full);
+        for (int i = 0; i < 100; i++) {
+            Due.feed(x, small);
+            DUE.is("read again and again", x.read(), 0);
+            DUE.is("MARK", x.mark(), 3);
+        }
+        // LOT 100 of SEED 0 in hour 0 is 88, of SEED 1234 39
+        x = DUE.glass(full);
+        for (int i = 0; i < 3; i++) {
+            Due.feed(x, small + "slips 88;");
+            x.read();
+            DUE.is("SEED 0", x.count(12), 0);
         }
     }
 

@@ -564,6 +564,9 @@ public final class WouldBeEdgesTest {
             isGame(new FamilyGlass(), n, 0, 0);
             isGame(DUE.glass(Due.people(20, 20, 20, 20, 20)), n, 100, 0);
         }
+        DUE.about("promise 31: as little as 0");
+        isGame(DUE.glass("person a 0 0;doing d a 0 11 1;"), 1, 0, 0);
+        isGame(DUE.glass("person a 0 0;doing d a 0 11 2;doing e a 0 11 1;jumps=0;"), 1, 1, 0);
         DUE.about("promise 31: 9 taps at most");
         // the LAW gives as many more as there are taps, in three thirds
         int[] due = {3 + 6 + 7 + 8 + 9, 3 + 7 + 8 + 9 + 9, 3 + 8 + 9 + 9 + 9, 3 + 9 + 9 + 9 + 9, 3 + 9 + 9 + 9 + 9};
@@ -575,6 +578,10 @@ public final class WouldBeEdgesTest {
             }
             isGame(x, 4, due[taps - 5], taps < 9 ? 1 : 0);
             DUE.is("nothing happens", x.count(5), taps);
+            while (x.tap() >= 0) {
+                DUE.is("asked ahead of the 9th", x.game(1, 1), x.count(5) < 9 ? 1 : 0);
+            }
+            DUE.is("asked behind the 9th", x.game(1, 1), 0);
         }
     }
 
@@ -830,6 +837,12 @@ public final class WouldBeEdgesTest {
         x.forget();
         x.tell(0, 10, true);
         DUE.is("one is left", x.look(1, 0, 11), 0);
+        for (String out : new String[] {"if sum<0 then 1 else 0", "if 20<sum then 1 else 0"}) {
+            x = DUE.glass("person a 5 0;needle=" + out + ";");
+            x.tell(0, 1, true);
+            DUE.is("no MOOD but 0 .. 20 is left", x.look(1, 0, 1), -2);
+            isFits(x, 1, 0, 0, -2);
+        }
     }
 
     private static void lookAtWorst() {
